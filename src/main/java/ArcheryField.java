@@ -1215,7 +1215,7 @@ public final class ArcheryField {
           lift(placed[who]);
         }
       }
-      return archers;
+      return who < archers ? SPENT : archers;
     }
 
     /** The first place from there on that is free and parts the CLUB; beyond all without one. */

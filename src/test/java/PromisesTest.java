@@ -243,6 +243,13 @@ public final class PromisesTest {
     faulty("\rface 1:1;", 1, 0);
     faulty((char) 0 + "face 1:1;", 1, 0);
     faulty("faceface 1:1;", 1, 0);
+    faulty("xace 1:1;", 1, 0);
+    faulty("fbce 1:1;", 1, 0);
+    faulty("lasu;", 1, 0);
+    faulty("lastz;", 1, 0);
+    faulty("lasta;", 1, 0);
+    faulty("face;", 1, 4);
+    faulty("face ;leg 1 1 0;", 1, 5);
     faulty("face face 1:1;", 1, 5);
     faulty("face\t1:1;", 1, 4);
     faulty("face -1:1;", 1, 5);
@@ -349,6 +356,11 @@ public final class PromisesTest {
   private static void firstFaultAlongTheText() {
     faulty("face 10001:21;", 2, 5);
     faulty("face 10001 x", 2, 5);
+    faulty("face 5:21 4:22;", 2, 7);
+    faulty("face 1:1;leg 13 1 0 0;", 2, 13);
+    faulty("face 1:1;leg 1 7 x;", 2, 15);
+    faulty("most 21 1;", 2, 5);
+    faulty("shaft 101:", 2, 6);
     faulty("face x 10001:1;", 1, 5);
     faulty("leg 13 7 9;", 2, 4);
     faulty("leg 1 7 9;", 2, 6);
@@ -1120,6 +1132,10 @@ public final class PromisesTest {
     x.leave(2);
     due("nobody", x.layout(), 0);
     due("nobody on", x.on(0), NONE);
+    due("a layout of nobody can be undone", x.undo(), 3);
+    due("by itself", x.told(2, 0), NONE);
+    due("then the last one who left", x.undo(), 2);
+    due("is there", x.told(2, 0), 2);
   }
 
   private static void layoutTries() {
@@ -1137,6 +1153,8 @@ public final class PromisesTest {
     due("the one before stays", y.on(7), 7);
     due("a ninth place of none", y.told(8, 6), NONE);
     due("and is no change", y.undo(), 3);
+    due("all places of the first are looked at, also with those behind it on (0 A)",
+        clubs(4, 6, 5, 5, 6, 0, 3, 5, 4, 0, 3, 6).layout(), -2);
     ArcheryField z = clubs(3, 0, 1, 2, 3, 4, 5);
     places("unlike clubs", z, 0, 1, 2, 3, 4, 5);
     z.archer(6);
@@ -1360,6 +1378,15 @@ public final class PromisesTest {
     x.shoot(0);
     Check.round(x, "face");
     due("what is refused is no change", x.undo(), NONE);
+    ArcheryField y = with("face 100:5;leg 1 1 0;");
+    y.archer(0);
+    y.take(0);
+    y.off(0, 0, 0, 0);
+    y.shoot(0);
+    y.arrow(4, 0, 0);
+    y.shoot(0);
+    y.score(0, 0, 2001);
+    due("nor is it with a round", y.undo(), 1);
   }
 
   private static void undoLeavesAlone() {

@@ -142,6 +142,9 @@ public final class BoundsOfLineTest {
     for (int place = 0; place < 8; place++) {
       due("on " + place, x.on(place), NONE);
     }
+    due("a LAYOUT of nobody is one that undo() takes back", x.undo(), 3);
+    due("behind it is the last who left", x.undo(), 2);
+    due("who is back", x.told(3, 0), 7);
   }
 
   /** The first LAYOUT puts the ARCHERS, by number, on these places. */
@@ -288,6 +291,10 @@ public final class BoundsOfLineTest {
     y.archers(2, 2, 0, 0, 1, 0, 0, 0, 1);
     due("the TRIES of a layout() before do not count", y.layout(), 14);
     due("nor these", y.layout(), 14);
+    // The 20000th TRY is one of the last ARCHER's and parts them not: it is not taken for the last.
+    due("one TRY short, on five", layout(5, 0, 0, 0, 4, 0, 1, 0, 2, 4, 0), SPENT);
+    due("one TRY short, on six", layout(6, 2, 1, 3, 0, 0, 0, 0, 4, 0, 2, 0), SPENT);
+    due("one TRY short, on eight", layout(8, 0, 3, 0, 0, 3, 0, 0, 3, 3, 0, 0, 0, 1, 3, 0), SPENT);
   }
 
   private static void layoutTriesWithoutOne() {

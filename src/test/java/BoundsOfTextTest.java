@@ -659,6 +659,8 @@ public final class BoundsOfTextTest {
     Check.due("SCORES stay", x.told(0, 5), 2);
     Check.due("places stay", x.told(0, 6), 0);
     Check.due("LANES stay", x.state(3), 2);
+    Check.due("ARROWS told for an END to come stay", x.arrow(1, 0, 0), 3);
+    Check.due("as they were", x.shoot(3), 18);
   }
 
   // "0 without, and ahead of any", "NONE without", "NONE for another what."

@@ -265,6 +265,11 @@ public final class BoundsOfUndoTest {
     due("undo", x.undo(), 0);
     due("the latest round() had none", x.fault(0), 0);
     due("nor a place", x.fault(1), NONE);
+    due("an ARCHER", x.archer(0), 0);
+    due("a FAULT", x.round("face 0:1;"), NONE);
+    due("undo() of the ARCHER", x.undo(), 0);
+    due("the FAULT stays", x.fault(0), 2);
+    due("its place, too", x.fault(1), 5);
   }
 
   private static void refusedCallsAreNoChanges() {

@@ -143,6 +143,7 @@ public final class BoundsOfLineTest {
       due("on " + place, x.on(place), NONE);
     }
     due("a LAYOUT of nobody is one that undo() takes back", x.undo(), 3);
+    due("nobody is back", x.told(3, 0), NONE);
     due("behind it is the last who left", x.undo(), 2);
     due("who is back", x.told(3, 0), 7);
   }

@@ -9,17 +9,24 @@ import java.lang.reflect.Modifier;
 import java.nio.file.Files;
 import java.nio.file.Path;
 import java.util.ArrayList;
+import java.util.Arrays;
 import java.util.List;
 import java.util.Set;
 import java.util.TreeSet;
 import java.util.regex.Matcher;
 import java.util.regex.Pattern;
+import java.util.stream.Collectors;
 
 /** What can be seen of the rules of LANGUAGE.md; its argument is the path of the class's source. */
 public final class LanguageTest {
-  private static final Set<String> FACE = Set.of("feed", "end", "round", "fault", "of", "archer",
-      "leave", "told", "arrow", "shoot", "value", "take", "off", "ahead", "rank", "today", "score",
-      "strike", "law", "kind", "bay", "layout", "on", "lane", "state", "undo");
+  /** The methods of the document's public face: what they answer, their name, how many ints. */
+  private static final Set<String> METHODS = Set.of("int feed 5", "boolean end 1", "int round 0",
+      "int fault 1", "int of 1", "int archer 1", "boolean leave 1", "int told 2", "int arrow 3",
+      "int shoot 1", "int value 2", "int take 1", "int off 4", "int ahead 2", "int rank 1",
+      "boolean today 1", "int score 3", "boolean strike 2", "int law 3", "int kind 3", "int bay 1",
+      "int layout 0", "int on 1", "int lane 2", "int state 1", "int undo 0");
+  private static final Set<String> FACE =
+      METHODS.stream().map(method -> method.split(" ")[1]).collect(Collectors.toSet());
   private static final Set<String> LIBRARY = Set.of("java/lang/Object.<init>",
       "java/lang/String.length", "java/lang/String.charAt", "java/util/Arrays.copyOf",
       "java/util/Arrays.fill", "java/lang/Integer.compare", "java/lang/Math.max");
@@ -50,19 +57,32 @@ public final class LanguageTest {
     Set<String> open = new TreeSet<>();
     for (Method method : ArcheryField.class.getDeclaredMethods()) {
       if (!Modifier.isPrivate(method.getModifiers())) {
-        open.add(method.getName());
+        open.add(told(method));
       } else if (FACE.contains(method.getName())) {
         Check.fail("private method with a public one's name: " + method);
       }
     }
-    Check.due("the methods are those of the document", open.equals(FACE), true);
+    Check.due("the methods are those of the document: " + open, open.equals(METHODS), true);
     for (Field field : ArcheryField.class.getDeclaredFields()) {
       boolean isOpen = !Modifier.isPrivate(field.getModifiers());
       Check.due("open field " + field.getName(), isOpen, field.getName().equals("NONE"));
     }
+    Check.due("NONE", ArcheryField.NONE, -1);
     Constructor<?>[] made = ArcheryField.class.getDeclaredConstructors();
     Check.due("one constructor", made.length, 1);
     Check.due("it is public", Modifier.isPublic(made[0].getModifiers()), true);
+    Check.due("it takes nothing", made[0].getParameterCount(), 0);
+    Check.due("it stands by itself", ArcheryField.class.getSuperclass() == Object.class
+        && ArcheryField.class.getInterfaces().length == 0, true);
+  }
+
+  private static String told(Method method) {
+    int seen = method.getModifiers() & (Modifier.PUBLIC | Modifier.PROTECTED | Modifier.STATIC);
+    boolean isPlain = seen == Modifier.PUBLIC
+        && Arrays.stream(method.getParameterTypes()).allMatch(type -> type == int.class);
+    return isPlain
+        ? method.getReturnType() + " " + method.getName() + " " + method.getParameterCount()
+        : method.toString();
   }
 
   private static void members(Class<?> one) {

@@ -11,7 +11,9 @@ import java.nio.file.Path;
 import java.util.ArrayList;
 import java.util.Arrays;
 import java.util.List;
+import java.util.Map;
 import java.util.Set;
+import java.util.TreeMap;
 import java.util.TreeSet;
 import java.util.regex.Matcher;
 import java.util.regex.Pattern;
@@ -46,6 +48,7 @@ public final class LanguageTest {
     }
     words(source);
     lengths(source);
+    depths(source);
     room();
     Check.close("LanguageTest");
   }
@@ -186,6 +189,50 @@ public final class LanguageTest {
         Check.due(lines[from].trim() + " is short", to - from < 60, true);
       }
     }
+  }
+
+  /**
+   * No method comes back to itself, and calls go at most eight deep, the library's too. Methods of
+   * one name are taken as one, so what is counted here is never less than what a run does.
+   */
+  private static void depths(String source) {
+    String[] lines = bare(source).split("\n");
+    Map<String, Set<String>> called = new TreeMap<>();
+    for (int from = 0; from < lines.length; from++) {
+      Matcher head = Pattern.compile("( {2,4})[a-zA-Z][^=]*?(\\w+)\\([^()]*\\) \\{")
+          .matcher(lines[from]);
+      if (head.matches()) {
+        Set<String> names = called.computeIfAbsent(head.group(2), name -> new TreeSet<>());
+        for (int at = from + 1; !lines[at].equals(head.group(1) + "}"); at++) {
+          Matcher call = Pattern.compile("\\b(Arrays\\.|Integer\\.|Math\\.)?(\\w+)\\(")
+              .matcher(lines[at]);
+          while (call.find()) {
+            names.add(call.group(1) == null ? call.group(2) : "the library");
+          }
+        }
+      }
+    }
+    Check.due("the methods of the face are all seen", called.keySet().containsAll(FACE), true);
+    for (String name : FACE) {
+      int depth = depth(name, called, List.of());
+      Check.due(name + " calls at most eight deep, not " + depth, depth <= 8, true);
+    }
+  }
+
+  private static int depth(String name, Map<String, Set<String>> called, List<String> above) {
+    if (above.contains(name)) {
+      Check.fail(name + " comes back to itself behind " + above);
+      return 0;
+    }
+    List<String> open = new ArrayList<>(above);
+    open.add(name);
+    int deepest = 0;
+    for (String next : called.getOrDefault(name, Set.of())) {
+      if (!Set.of("if", "for", "while", "switch", "this").contains(next)) {
+        deepest = Math.max(deepest, depth(next, called, open));
+      }
+    }
+    return deepest + 1;
   }
 
   /** How much the dearest runs make, in bytes: an element or a field takes four at most here. */
